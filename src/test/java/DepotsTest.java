@@ -11,6 +11,7 @@ public final class DepotsTest {
         more();
         serves();
         pair();
+        fullLand();
         Check.end();
     }
 
@@ -47,6 +48,8 @@ public final class DepotsTest {
             Check.due("13: turn(3, " + k + ", 0)", x.turn(3, k, 0), which[k]);
             Check.due("13: turn(3, " + k + ", 1)", x.turn(3, k, 1), far[k]);
         }
+        Check.due("13: turn(0, 0, 0), itself", x.turn(0, 0, 0), 0);
+        Check.due("13: turn(0, 1, 0), behind itself", x.turn(0, 1, 0), 1);
         Check.due("13: turn(3, 5, 0)", x.turn(3, 5, 0), -1);
         Check.due("13: turn(3, 5, 1)", x.turn(3, 5, 1), -1);
         Check.due("13: turn(3, most, 0)", x.turn(3, Integer.MAX_VALUE, 0), -1);
@@ -113,7 +116,10 @@ public final class DepotsTest {
         Check.open(x, 0);
         Check.due("16: left(0) with two", x.left(0), 30);
         Check.due("16: left(1) with two", x.left(1), 6);
-        Check.open(x, 1, 2, 4, 5, 6);
+        Check.open(x, 2, 4, 5, 6);
+        Check.due("16: left(0), all open but 1", x.left(0), 10);
+        Check.due("16: left(1), all open but 1", x.left(1), 1);
+        Check.open(x, 1);
         Check.due("16: left(0), all open", x.left(0), 0);
         Check.due("16: left(1), all open", x.left(1), 0);
         Check.due("16: left(2)", x.left(2), -2);
@@ -161,6 +167,9 @@ public final class DepotsTest {
         Check.due("18: a shut one at the other end", x.serves(6), 1);
         Check.due("18: a shut one next to the last", x.serves(5), 2);
         Check.due("18: nothing is opened by it", x.told(5), 2);
+        Check.open(x, 0);
+        Check.due("18: 0 takes a like one, too", x.serves(2), 2);
+        Check.due("18: serves(0)", x.serves(0), 2);
         Check.due("18: serves(7)", x.serves(7), -2);
         for (int bad : NO_NUMBERS) {
             Check.due("18: serves(" + bad + ")", x.serves(bad), -2);
@@ -179,6 +188,8 @@ public final class DepotsTest {
         isPair("of like ones the lesser", x, 20, 0, 2);
         x.depot(0, 0);
         isPair("after 0 was shut", x, 20, 2, 4);
+        Check.open(x, 5);
+        isPair("neighbours", x, 10, 4, 5);
         RoadDepots star = new RoadDepots();
         for (int v = 1; v < 6; v++) {
             star.add(0, 7);
@@ -190,6 +201,33 @@ public final class DepotsTest {
             Check.due("19: pair(" + bad + ")", x.pair(bad), -2);
         }
         Check.due("19: how often BAD", x.told(0), 5);
+    }
+
+    /** 60 villages in a row, one more open at a time, so that every loop goes to its end. */
+    private static void fullLand() {
+        RoadDepots x = Check.row(60, 2);
+        Check.open(x, 59);
+        Check.due("12: nearest(0, 0) of 60", x.nearest(0, 0), 59);
+        Check.due("13: turn(0, 0, 1) of 60", x.turn(0, 0, 1), 118);
+        Check.due("13: turn(0, 1, 0) of 60", x.turn(0, 1, 0), -1);
+        Check.due("14: within(0, 117) of 60", x.within(0, 117), 0);
+        Check.due("15: sum(0) of 60", x.sum(0), 118);
+        Check.due("16: left(0) of 60", x.left(0), 118);
+        Check.due("16: left(1) of 60", x.left(1), 0);
+        Check.due("17: more(0) of 60", x.more(0), 18);
+        Check.due("17: more(1) of 60", x.more(1), 40);
+        Check.due("18: serves(59) of 60", x.serves(59), 60);
+        Check.due("18: serves(58) of 60", x.serves(58), 59);
+        Check.due("19: pair(0) of 60, one open", x.pair(0), -1);
+        Check.open(x, 58);
+        isPair("the last two of 60", x, 2, 58, 59);
+        Check.due("4: road(59, 9) of 60", x.road(59, 9), 2);
+        Check.due("4: road(1, 99) of 60", x.road(1, 99), 2);
+        Check.due("8: far(0, 59) of 60", x.far(0, 59), 222);
+        Check.due("10: longest(2) of 60", x.longest(2), 59);
+        Check.due("11: middle(1) of 60", x.middle(1), 29);
+        Check.due("7: of(59, 3) of 60", x.of(59, 3), 1);
+        Check.said(x, "all;near 0;sum 59;within 59 9;", "58,59 58@213 9 2");
     }
 
     private static void isPair(String name, RoadDepots x, int far, int lesser, int other) {

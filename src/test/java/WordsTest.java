@@ -40,6 +40,9 @@ public final class WordsTest {
         }
         Check.due("20: 120 bytes are all read", Check.say(full, most.toString()), 30);
         Check.due("20: and answered", full.answer(-1), 59);
+        Check.fault(full, most.substring(0, 119) + "l", 116);
+        Check.fault(full, most.substring(0, 119) + " ", 120);
+        Check.fault(full, most.substring(0, 116) + "open", 120);
     }
 
     private static void clear() {
@@ -75,6 +78,7 @@ public final class WordsTest {
         RoadDepots x = new RoadDepots();
         Check.said(x, "open 0;", "1");
         Check.fault(x, "", 0);
+        Check.fault(x, "open 0", 6);
         Check.fault(x, "   ", 3);
         Check.fault(x, "all", 3);
         Check.fault(x, "all  ", 5);
@@ -90,6 +94,10 @@ public final class WordsTest {
         Check.fault(x, "al;", 0);
         Check.fault(x, "al", 0);
         Check.fault(x, "alll;", 0);
+        Check.fault(x, "allz;", 0);
+        Check.fault(x, "ball;", 0);
+        Check.fault(x, "ill;", 0);
+        Check.fault(x, "rear 0;", 0);
         Check.fault(x, "all;  opens 0;", 6);
         Check.fault(x, "All;", 0);
         Check.fault(x, "5;", 0);
