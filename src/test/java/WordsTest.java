@@ -100,6 +100,7 @@ public final class WordsTest {
         Check.fault(x, "rear 0;", 0);
         Check.fault(x, "all;  opens 0;", 6);
         Check.fault(x, "All;", 0);
+        Check.fault(x, "allX;", 3);
         Check.fault(x, "5;", 0);
         Check.fault(x, "all 0;", 4);
         Check.fault(x, "all0;", 3);
