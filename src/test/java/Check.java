@@ -1,36 +1,47 @@
 /** What the tests share: counting wrong answers, typing texts, reading the answer. */
 final class Check {
     private static int wrong = 0;
+    private static String sentence = "";
 
     private Check() {
+    }
+
+    /** What is checked from here on holds to this sentence of the document; QuotesTest looks the sentence up. */
+    static void edge(int promise, String quote) {
+        sentence = "promise " + promise + ", '" + quote + "': ";
     }
 
     static void due(String call, long got, long want) {
         if (got != want) {
             wrong++;
-            System.out.println(call + " answered " + got + ", due is " + want);
+            System.out.println(sentence + call + " answered " + got + ", due is " + want);
         }
     }
 
     static void dueText(String call, String got, String want) {
         if (!got.equals(want)) {
             wrong++;
-            System.out.println(call + " answered '" + got + "', due is '" + want + "'");
+            System.out.println(sentence + call + " answered '" + got + "', due is '" + want + "'");
+        }
+    }
+
+    static void type(RoadDepots x, String text) {
+        for (int i = 0; i < text.length(); i++) {
+            x.type(text.charAt(i));
         }
     }
 
     /** Types the text in place of the old one and has it said. */
     static int say(RoadDepots x, String text) {
         x.clear();
-        for (int i = 0; i < text.length(); i++) {
-            x.type(text.charAt(i));
-        }
+        type(x, text);
         return x.says();
     }
 
     static String line(RoadDepots x) {
         StringBuilder signs = new StringBuilder();
-        for (int k = 0; k < x.answer(RoadDepots.NONE); k++) {
+        int size = x.answer(RoadDepots.NONE);
+        for (int k = 0; k < size; k++) {
             signs.append((char) x.answer(k));
         }
         return signs.toString();
@@ -46,9 +57,7 @@ final class Check {
     /** The text has its fault there, and the call changes nothing that the digest shows. */
     static void fault(RoadDepots x, String text, int place) {
         x.clear();
-        for (int i = 0; i < text.length(); i++) {
-            x.type(text.charAt(i));
-        }
+        type(x, text);
         long before = x.digest();
         due("says of '" + text + "'", x.says(), -10 - place);
         due("digest after the fault of '" + text + "'", x.digest(), before);
@@ -69,6 +78,15 @@ final class Check {
         RoadDepots x = new RoadDepots();
         for (int v = 1; v < villages; v++) {
             x.add(v - 1, length);
+        }
+        return x;
+    }
+
+    /** 0 with villages around it, all roads of one length. */
+    static RoadDepots star(int villages, int length) {
+        RoadDepots x = new RoadDepots();
+        for (int v = 1; v < villages; v++) {
+            x.add(0, length);
         }
         return x;
     }
