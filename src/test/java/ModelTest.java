@@ -7,7 +7,8 @@ public final class ModelTest {
         "longest", "middle", "nearest", "turn", "within", "sum", "left", "more", "serves", "pair", "type", "clear",
         "says", "answer", "told",
     };
-    private static final int RUNS = 150;
+    private static final int RUNS = 400;
+    /** What an object answers behind its 512th call is free. */
     private static final int CALLS_OF_A_RUN = 512;
 
     private final Random random;
@@ -45,7 +46,7 @@ public final class ModelTest {
     }
 
     private int number(String call, int which) {
-        int there = x.told(4);
+        int there = villages();
         switch (random.nextInt(24)) {
             case 0: return -1;
             case 1: return there;
@@ -69,8 +70,15 @@ public final class ModelTest {
         return random.nextInt(random.nextBoolean() ? 3 : there);
     }
 
+    private int villages() {
+        return model.call("told", 4, 0, 0);
+    }
+
     private void both(String call, int a, int b, int c) {
-        calls++;
+        if (calls + 2 > CALLS_OF_A_RUN) {
+            return;
+        }
+        calls += 2;
         String shown = name + calls + ": " + call + "(" + a + ", " + b + ", " + c + ")";
         Check.due(shown, real(call, a, b, c), model.call(call, a, b, c));
         Check.due(shown + " digest", x.digest(), model.digest());
@@ -93,7 +101,7 @@ public final class ModelTest {
             both("type", text.charAt(i), 0, 0);
         }
         both("says", 0, 0, 0);
-        for (int k = -1; k <= Math.min(x.told(6), 30); k++) {
+        for (int k = -1; k <= Math.min(model.call("told", 6, 0, 0), 30); k++) {
             both("answer", k, 0, 0);
         }
     }
@@ -105,7 +113,7 @@ public final class ModelTest {
         String blank = random.nextInt(4) == 0 ? "  " : random.nextInt(4) == 0 ? "" : " ";
         String sentence = words[random.nextInt(words.length)].replaceFirst(" ", blank);
         for (int i = 0; i < 2; i++) {
-            sentence = sentence.replaceFirst("V", figures(x.told(4)));
+            sentence = sentence.replaceFirst("V", figures(villages()));
         }
         sentence = sentence.replaceFirst("L", "" + (1 + random.nextInt(99)));
         sentence = sentence.replaceFirst("N", "" + random.nextInt(100));

@@ -67,6 +67,12 @@ public final class WordsTest {
         Check.due("22: what was said stands", x.of(1, 1), 3);
         Check.due("22: the text stays, and is said again", x.says(), 4);
         Check.dueText("22: said again", Check.line(x), "3 65 50 99");
+        saysWithBlanks();
+    }
+
+    private static void saysWithBlanks() {
+        RoadDepots x = Check.nineVillages();
+        Check.open(x, 3, 5, 7);
         Check.said(x, "  add0 5 ;open   9;far9 0  ;way 09 00;all;  ", "9 1 5 9>0 3,5,7,9");
         Check.said(x, "within0 0;within 9 00;sum 3;", "0 1 41");
         Check.due("22: nothing is refused by words", x.told(0) + x.told(1) + x.told(2), 0);
@@ -179,19 +185,21 @@ public final class WordsTest {
             way.append('>').append(v);
         }
         String one = way.toString();
-        Check.said(x, "way 0 59;far 0 59;", one + " 5841");
+        Check.said(Check.row(60, 99), "way 0 59;far 0 59;", one + " 5841");
         String all = one + " " + one + " " + one;
         Check.due("22: says of three ways", Check.say(x, "way 0 59;way 0 59;way 0 59;open 7;"), 4);
         Check.dueText("22: cut at 400 signs", Check.line(x), all.substring(0, 400));
-        Check.due("22: what is left out is done", x.of(7, 2), 1);
-        Check.due("22: answer(399)", x.answer(399), all.charAt(399));
-        Check.due("22: answer(400)", x.answer(400), -5);
-        Check.due("22: told(6)", x.told(6), 400);
-        Check.said(x, "all;", "7");
+        RoadDepots y = Check.row(60, 99);
+        Check.say(y, "way 0 59;way 0 59;way 0 59;open 7;");
+        Check.due("22: what is left out is done", y.of(7, 2), 1);
+        Check.due("22: answer(399)", y.answer(399), all.charAt(399));
+        Check.due("22: answer(400)", y.answer(400), -5);
+        Check.due("22: told(6)", y.told(6), 400);
+        Check.said(y, "all;", "7");
         for (int v = 0; v < 60; v++) {
-            x.depot(v, 1);
+            y.depot(v, 1);
         }
-        Check.said(x, "sum 0;sum 59;all;", "175230 175230 " + one.replace('>', ','));
+        Check.said(y, "sum 0;sum 59;all;", "175230 175230 " + one.replace('>', ','));
     }
 
     private static void answer() {
