@@ -329,7 +329,7 @@ public final class RoadDepots {
 
         /** Answers 1, if the depot was otherwise, else 0. */
         int setDepot(int v, boolean becomesOpen) {
-            if (open[v] == becomesOpen) {
+            if (!has(v) || open[v] == becomesOpen) {
                 return 0;
             }
             open[v] = becomesOpen;
@@ -339,6 +339,9 @@ public final class RoadDepots {
 
         /** Answers what the length was. */
         int setRoad(int v, int length) {
+            if (!has(v)) {
+                return NONE;
+            }
             int was = lengths[v];
             lengths[v] = length;
             // No way between lesser villages leads over this road.
@@ -364,6 +367,9 @@ public final class RoadDepots {
 
         /** The root (0), the road's length (1), whether the depot is open (2), how many roads (3). */
         int aspect(int v, int what) {
+            if (!has(v)) {
+                return NONE;
+            }
             switch (what) {
                 case 0:
                     return roots[v];
@@ -377,7 +383,8 @@ public final class RoadDepots {
         }
 
         int gap(int u, int v) {
-            return gaps[u * MOST_VILLAGES + v];
+            int place = u * MOST_VILLAGES + v;
+            return place >= 0 && place < gaps.length ? gaps[place] : 0;
         }
 
         private int countRoads(int v) {
@@ -420,7 +427,7 @@ public final class RoadDepots {
             int to = v;
             int front = 0;
             int back = MOST_VILLAGES;
-            while (from != to && front + 1 < back) {
+            while (from != to && land.has(from) && land.has(to) && front + 1 < back) {
                 if (from > to) {
                     trail[front] = from;
                     front++;
@@ -433,7 +440,7 @@ public final class RoadDepots {
             }
             trail[front] = from;
             front++;
-            for (int i = back; i < MOST_VILLAGES; i++) {
+            for (int i = back; i < MOST_VILLAGES && front <= i; i++) {
                 trail[front] = trail[i];
                 front++;
             }
@@ -507,7 +514,10 @@ public final class RoadDepots {
                 weights[v] = 1;
             }
             for (int v = land.count - 1; v > 0; v--) {
-                weights[land.roots[v]] += weights[v];
+                int root = land.roots[v];
+                if (land.has(root)) {
+                    weights[root] += weights[v];
+                }
             }
         }
     }

@@ -75,10 +75,21 @@ public final class FaceTest {
             for (Method m : c.getDeclaredMethods()) {
                 Check.due(m + " bears the name of a public one", open.contains(m.getName()) ? 1 : 0, 0);
             }
-            for (Field f : c.getDeclaredFields()) {
-                boolean changes = Modifier.isStatic(f.getModifiers()) && !Modifier.isFinal(f.getModifiers());
-                Check.due(f + " is static and not final", changes ? 1 : 0, 0);
-            }
+            fieldsAndParameters(c);
+        }
+        fieldsAndParameters(RoadDepots.class);
+    }
+
+    private static void fieldsAndParameters(Class<?> c) {
+        int own = 0;
+        for (Field f : c.getDeclaredFields()) {
+            boolean isStatic = Modifier.isStatic(f.getModifiers());
+            own += isStatic ? 0 : 1;
+            Check.due(f + " is static and not final", isStatic && !Modifier.isFinal(f.getModifiers()) ? 1 : 0, 0);
+        }
+        Check.due(c.getName() + " has at most twenty fields", own <= 20 ? 1 : 0, 1);
+        for (Method m : c.getDeclaredMethods()) {
+            Check.due(m + " takes at most seven", m.getParameterCount() <= 7 ? 1 : 0, 1);
         }
     }
 
