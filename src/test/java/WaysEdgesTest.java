@@ -14,6 +14,7 @@ public final class WaysEdgesTest {
         middleOfFew();
         middleByFarthest();
         middleByAll();
+        middleByThoseThatAreThere();
         middleByRest();
         middleIsBad();
         Check.end();
@@ -180,6 +181,19 @@ public final class WaysEdgesTest {
         x.road(3, 50);
         x.add(0, 1);
         Check.due("middle(1), as many again", x.middle(1), 0);
+    }
+
+    private static void middleByThoseThatAreThere() {
+        Check.edge(11, "from which all together are (1)");
+        RoadDepots x = Check.row(60, 99);
+        x.anew();
+        x.add(0, 1);
+        x.add(1, 1);
+        x.add(2, 1);
+        for (int what = 0; what < 3; what++) {
+            Check.due("middle(" + what + ") of four, where 60 were farther", x.middle(what), 1);
+        }
+        Check.due("longest(0) of four, where 60 were farther", x.longest(0), 3);
     }
 
     private static void middleByRest() {
